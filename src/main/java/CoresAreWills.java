@@ -802,27 +802,18 @@ public final class CoresAreWills {
 
     int shareBy(int kind, int figure) {
       if (isInChancery()) return kind == LAWYER ? figure : 0;
+      int nephews = Integer.bitCount(deed & FIRST_COLUMN << figure % SIDE);
+      int elders = nephews + ((deed & STALK) != 0 ? 5 : 0);
+      int widows = nephews / 2 + 2 * Integer.bitCount(deed & PIPS);
       switch (kind) {
-        case NEPHEW: return nephews(figure);
-        case ELDER: return elders(figure);
-        case WIDOW: return widows(figure);
-        case LAWYER: return elders(figure) / 3;
+        case NEPHEW: return nephews;
+        case ELDER: return elders;
+        case WIDOW: return widows;
+        case LAWYER: return elders / 3;
         case PIG: return Math.max(0, gone - figure);
-        case KITCHEN: return widows(figure) + heaps - 1;
+        case KITCHEN: return widows + heaps - 1;
         default: return 0;
       }
-    }
-
-    private int nephews(int figure) {
-      return Integer.bitCount(deed & FIRST_COLUMN << figure % SIDE);
-    }
-
-    private int elders(int figure) {
-      return nephews(figure) + ((deed & STALK) != 0 ? 5 : 0);
-    }
-
-    private int widows(int figure) {
-      return nephews(figure) / 2 + 2 * Integer.bitCount(deed & PIPS);
     }
   }
 

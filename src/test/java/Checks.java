@@ -19,6 +19,10 @@ final class Checks {
     due(what, so ? 1 : 0, 1);
   }
 
+  int done() {
+    return done;
+  }
+
   /** Ends the program, with 1 if anything was wrong or nothing was checked. */
   void ends() {
     System.out.println(name + ": " + done + " checks, " + wrong + " wrong");

@@ -36,6 +36,7 @@ public final class FaceTest {
     test.insides();
     test.source(Files.readString(SOURCE));
     test.lengths(Files.readAllLines(SOURCE));
+    test.depths(withoutComments(Files.readString(SOURCE)));
     test.checks.ends();
   }
 
@@ -134,6 +135,44 @@ public final class FaceTest {
       if (start < 0 || !line.matches("( {2}| {4})\\}")) continue;
       checks.holds("method at line " + (start + 1) + " is short", i - start < 60);
       start = -1;
+    }
+  }
+
+  /** The methods that each method calls; those of the same name are taken as one. */
+  private Map<String, TreeSet<String>> calls(String source) {
+    Map<String, TreeSet<String>> calls = new TreeMap<>();
+    Map<String, String> bodies = new TreeMap<>();
+    Matcher method = Pattern.compile("(?ms)^( {2}| {4})[a-z][\\w \\[\\]]*? (\\w+)\\(([^()]*)\\) \\{$"
+        + "(.*?)^\\1\\}$").matcher(source);
+    while (method.find()) {
+      int takes = method.group(3).isEmpty() ? 0 : method.group(3).split(",").length;
+      checks.holds(method.group(2) + " takes at most seven", takes <= 7);
+      bodies.merge(method.group(2), method.group(4), String::concat);
+    }
+    for (String name : bodies.keySet()) {
+      TreeSet<String> called = new TreeSet<>();
+      Matcher call = Pattern.compile("\\b(\\w+)\\(").matcher(bodies.get(name));
+      while (call.find()) if (bodies.containsKey(call.group(1))) called.add(call.group(1));
+      calls.put(name, called);
+    }
+    return calls;
+  }
+
+  private static int depth(String name, Map<String, TreeSet<String>> calls, int open) {
+    if (open > calls.size()) return open;
+    int deepest = 1;
+    for (String called : calls.get(name)) {
+      deepest = Math.max(deepest, 1 + depth(called, calls, open + 1));
+    }
+    return deepest;
+  }
+
+  private void depths(String source) {
+    Map<String, TreeSet<String>> calls = calls(source);
+    checks.holds("all of the face are found", calls.keySet().containsAll(told().keySet()));
+    for (String name : calls.keySet()) {
+      int depth = depth(name, calls, 1);
+      checks.holds(name + " goes " + depth + " deep", depth <= 8);
     }
   }
 }

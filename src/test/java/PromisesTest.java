@@ -1,18 +1,14 @@
 /** Each promise by calls whose answers were worked out by hand from the document. */
 public final class PromisesTest {
-  private static final int WHOLE = 33554431;
+  private static final int WHOLE = Told.WHOLE;
   private static final long L = 4000000000000000000L;
-  private static final int MIN = Integer.MIN_VALUE;
-  private static final int MAX = Integer.MAX_VALUE;
-
-  /** Two pieces of ten: rows 0, 1 and rows 3, 4. */
-  private static final String HALVES = "b110;b112;b014;";
-  /** Rows 0 .. 2 are THE DEED, row 4 is a piece of five. */
-  private static final String SHELF = "b115;b117;b019;";
-  /** The STALK alone is a piece of one, the deed has 21 cells. */
-  private static final String CUT = "b001;b003;b007;";
-  /** Nothing is LEFT, by 9 bites. */
-  private static final String EATEN = "b300;b302;b310;b312;b204;b214;b120;b122;b024;";
+  private static final int MIN = Told.MIN;
+  private static final int MAX = Told.MAX;
+  private static final String HALVES = Told.HALVES;
+  private static final int HALVES_LEFT = Told.HALVES_LEFT;
+  private static final String SHELF = Told.SHELF;
+  private static final String CUT = Told.CUT;
+  private static final String EATEN = Told.EATEN;
 
   private final Checks checks = new Checks("PromisesTest");
 
@@ -93,14 +89,11 @@ public final class PromisesTest {
   }
 
   private static int tell(CoresAreWills x, String text) {
-    for (int i = 0; i < text.length(); i++) x.letter(text.charAt(i));
-    return x.core();
+    return Told.tell(x, text);
   }
 
   private static CoresAreWills of(String text) {
-    CoresAreWills x = new CoresAreWills();
-    if (tell(x, text) < 0) throw new IllegalArgumentException(text);
-    return x;
+    return Told.of(text);
   }
 
   /** No HEIRS, all LEFT, no refusals but these many of -1, -2, -3, -4, -5, -6. */
@@ -887,8 +880,6 @@ public final class PromisesTest {
       due("lots of nothing", x.lots(20, seed, 1), 20);
     }
   }
-
-  private static final int HALVES_LEFT = WHOLE - (31 << 10);
 
   /** Bites by another object what the lots draw, and asks it each time. */
   private static int lotsInChancery(int left, int n, int z) {
