@@ -12,6 +12,7 @@ final class Document {
   static final int PROMISES = 37;
   private static final Path FILE = Path.of("../shared/DOC.md");
   private static final Pattern REFUSAL = Pattern.compile("(?<!\\()-[12346]\\b");
+  private static final Pattern METHOD = Pattern.compile("public ((?:int|long) \\w+\\([^()]*\\));");
 
   private final String[] sections = new String[PROMISES + 1];
 
@@ -34,6 +35,14 @@ final class Document {
     } catch (IOException e) {
       throw new UncheckedIOException(e);
     }
+  }
+
+  /** The methods of the public face in their order, as "int bites(int shape, int cell)". */
+  List<String> face() {
+    List<String> face = new ArrayList<>();
+    Matcher found = METHOD.matcher(sections[0]);
+    while (found.find()) face.add(found.group(1));
+    return face;
   }
 
   boolean says(int promise, String words) {
